@@ -39,22 +39,18 @@ public final class OrchardLadders {
         if (!within(high, 1, MOST_HIGH) || !within(fruit, 0, MOST_FRUIT) || !within(ripe, 0, MOST_RIPE)) {
             return BAD;
         }
-        if (orchard.trees >= MOST_TREES) {
-            return FULL;
-        }
-        history.known = 0;
-        return orchard.plant(high, fruit, ripe);
+        int number = orchard.plant(high, fruit, ripe);
+        history.forgetUnlessFull(number);
+        return number;
     }
 
     public int ladder(int kind, int length, int price) {
         if (!within(kind, PLAIN, LENT) || !within(length, 1, MOST_LONG) || !within(price, 0, MOST_PRICE)) {
             return BAD;
         }
-        if (orchard.ladders >= MOST_LADDERS) {
-            return FULL;
-        }
-        history.known = 0;
-        return orchard.bring(kind, length, price);
+        int number = orchard.bring(kind, length, price);
+        history.forgetUnlessFull(number);
+        return number;
     }
 
     public int of(int tree, int what) {
@@ -114,13 +110,7 @@ public final class OrchardLadders {
     }
 
     public int type(int letter) {
-        if (!within(letter, 32, 126)) {
-            return BAD;
-        }
-        if (tape.length >= MOST_LETTERS) {
-            return FULL;
-        }
-        return tape.append((char) letter);
+        return within(letter, 32, 126) ? tape.append((char) letter) : BAD;
     }
 
     public int orchard() {
@@ -219,9 +209,6 @@ public final class OrchardLadders {
     }
 
     public int undo() {
-        if (history.known == 0) {
-            return NONE;
-        }
         return history.putBack(orchard.now);
     }
 
@@ -304,8 +291,9 @@ public final class OrchardLadders {
             return NONE;
         }
         for (int t = 0; t < orchard.trees; t++) {
+            int others = orchard.now.leaningAt(t) & ~(1 << ladder);
             for (int visits = 0; visits < 1 << n; visits++) {
-                choice.worth[t * SETS + visits] = orchard.gotWithVisits(t, ladder, visits, n);
+                choice.worth[t * SETS + visits] = orchard.gotWithGuest(t, others, 1 << ladder, visits, n, orchard.basket);
             }
         }
         choice.seek(orchard.trees, n);
@@ -755,25 +743,16 @@ public final class OrchardLadders {
 
         /** What is got at a tree in n days by a set of ladders that stays there. */
         int gotAt(int tree, int set, int n, int size) {
-            int fruit = now.fruit[tree];
-            int got = 0;
-            for (int d = 0; d < n && fruit > 0; d++) {
-                int taken = taken(tree, now.day + d, set, fruit, size);
-                got += taken;
-                fruit -= taken;
-                fruit -= stung(tree, now.day + d, fruit);
-            }
-            return got;
+            return gotWithGuest(tree, set, 0, 0, n, size);
         }
 
-        /** What is got at a tree in n days, if a ladder is there on the days of a set, and all others as they are. */
-        int gotWithVisits(int tree, int ladder, int visits, int n) {
-            int others = now.leaningAt(tree) & ~(1 << ladder);
+        /** What is got at a tree in n days by a set of ladders that stays there, and by a guest on the days of visits. */
+        int gotWithGuest(int tree, int set, int guest, int visits, int n, int size) {
             int fruit = now.fruit[tree];
             int got = 0;
             for (int d = 0; d < n && fruit > 0; d++) {
-                int set = others | (visits >> d & 1) << ladder;
-                int taken = taken(tree, now.day + d, set, fruit, basket);
+                int there = (visits >> d & 1) != 0 ? set | guest : set;
+                int taken = taken(tree, now.day + d, there, fruit, size);
                 got += taken;
                 fruit -= taken;
                 fruit -= stung(tree, now.day + d, fruit);
@@ -806,6 +785,13 @@ public final class OrchardLadders {
             known = other.known;
             for (int m = 0; m < known; m++) {
                 past[m].become(other.past[m]);
+            }
+        }
+
+        /** Behind a new tree or ladder nothing may be undone. */
+        void forgetUnlessFull(int number) {
+            if (number != FULL) {
+                known = 0;
             }
         }
 
@@ -946,6 +932,7 @@ public final class OrchardLadders {
         int place;
         int fault;
 
+        /** How many letters there are then; FULL, if there is no room. */
         int append(char letter) {
             if (length >= MOST_LETTERS) {
                 return FULL;

@@ -52,6 +52,8 @@ public final class DoneTest {
         Check.due("the draw is as it was", x.seed(1), 1);
         Check.due("days(38)", x.days(38), 0);
         Check.due("drift(2) to 10000", x.drift(2), -3);
+        Check.due("days(1) to 9999", x.days(1), 0);
+        Check.due("undo()", x.undo(), 7);
         Check.due("drift(1) to 9999", x.drift(1), 0);
         Check.due("day 9999", x.count(2), 9999);
         Check.due("days(1)", x.days(1), -3);

@@ -161,6 +161,10 @@ public final class ForetoldTest {
         Check.due("with another: round(0, 1, -1)", x.round(0, 1, -1), 10);
         Check.due("with another: round(0, 1, 0)", x.round(0, 1, 0), 2);
         Check.due("at(0, 3) is as it was", x.at(0, 3), 0);
+        x.lean(1, 2);
+        Check.due("another takes from the same: round(0, 2, -1)", x.round(0, 2, -1), 13);
+        Check.due("another takes from the same: round(0, 2, 0)", x.round(0, 2, 0), 0);
+        Check.due("another takes from the same: round(0, 2, 1)", x.round(0, 2, 1), 0);
     }
 
     private static void longer() {
