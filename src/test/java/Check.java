@@ -1,17 +1,51 @@
+import java.io.IOException;
+import java.nio.file.Files;
+import java.nio.file.Path;
+
 /** Counts answers that are not due, as the tests under ../shared/tests do. */
 final class Check {
     private static int wrong = 0;
     private static int asked = 0;
+    private static String sentence = "";
+    private static String document;
 
     private Check() {
+    }
+
+    /** What follows tests this sentence; its words must be the document's, so that none is tested that it does not say. */
+    static void sentence(String words) {
+        sentence = words;
+        holds("the document says so", document().contains(words));
+    }
+
+    private static String document() {
+        if (document == null) {
+            try {
+                document = Files.readString(Path.of("../shared/DOC.md")).replaceAll("\\s+", " ");
+            } catch (IOException e) {
+                throw new IllegalStateException("../shared/DOC.md can't be read", e);
+            }
+        }
+        return document;
     }
 
     static void due(String call, long got, long want) {
         asked++;
         if (got != want) {
-            wrong++;
-            System.out.println(call + " answered " + got + ", due is " + want);
+            tellWrong(call + " answered " + got + ", due is " + want);
         }
+    }
+
+    static void same(String what, String got, String want) {
+        asked++;
+        if (!got.equals(want)) {
+            tellWrong(what + " is " + got + ", due is " + want);
+        }
+    }
+
+    private static void tellWrong(String words) {
+        wrong++;
+        System.out.println((sentence.isEmpty() ? "" : "\"" + sentence + "\": ") + words);
     }
 
     static void holds(String what, boolean so) {
