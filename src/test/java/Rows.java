@@ -32,7 +32,7 @@ final class Rows {
         for (String row : rows) {
             calls += callsOf(row);
             if (row.startsWith("letters ")) {
-                letters(x, row.substring(8));
+                answer(x, row);
             } else {
                 int cut = row.lastIndexOf(" = ");
                 String call = row.substring(0, cut);
@@ -43,20 +43,22 @@ final class Rows {
         Check.holds("no more than 512 calls: " + behind, calls <= MOST_CALLS);
     }
 
-    private static int callsOf(String row) {
+    /** How many calls a row is: a text is one for each letter, and one more to read it. */
+    static int callsOf(String row) {
         if (row.startsWith("letters ")) {
             return row.length() - 8;
         }
-        return row.startsWith("text ") ? row.lastIndexOf(" = ") - 4 : 1;
-    }
-
-    private static void letters(OrchardLadders x, String text) {
-        for (int i = 0; i < text.length(); i++) {
-            x.type(text.charAt(i));
+        if (row.startsWith("text ")) {
+            int cut = row.lastIndexOf(" = ");
+            return (cut < 0 ? row.length() : cut) - 4;
         }
+        return 1;
     }
 
     static int answer(OrchardLadders x, String call) {
+        if (call.startsWith("letters ")) {
+            return letters(x, call.substring(8));
+        }
         if (call.startsWith("text ")) {
             return Check.readInto(x, call.substring(5));
         }
@@ -80,6 +82,14 @@ final class Rows {
         } catch (InvocationTargetException e) {
             throw new IllegalStateException(call + " threw " + e.getCause(), e);
         }
+    }
+
+    private static int letters(OrchardLadders x, String text) {
+        int last = 0;
+        for (int i = 0; i < text.length(); i++) {
+            last = x.type(text.charAt(i));
+        }
+        return last;
     }
 
     private static long number(String word) {
