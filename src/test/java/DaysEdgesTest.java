@@ -185,6 +185,8 @@ public final class DaysEdgesTest {
             "count(9) = 0");
         Rows.run("1:1@0,1:1@0,1:1@0,1:1@0,1:1@0,1:9@0", "shake(6) = -1", "shake(5) = 4", "of(5, 1) = 5", "count(6) = 10");
         Rows.run("5:2@0;p50=0", "shake(0) = 1", "of(0, 1) = 1", "days(1) = 1", "shake(0) = -2", "count(9) = 2");
+        Check.sentence("What is divided is cut.");
+        Rows.run("5:7@0", "shake(0) = 3", "of(0, 1) = 4", "shake(0) = 2", "of(0, 1) = 2", "shake(0) = 1", "of(0, 1) = 1", "shake(0) = 0", "of(0, 1) = 1");
         Check.sentence("is shaken: a half of its FRUIT is LOST (cut)");
         Rows.run("5:1@0", "shake(0) = 0", "of(0, 1) = 1", "count(5) = 0", "count(9) = 1");
         Rows.run("5:2@0", "shake(0) = 1", "of(0, 1) = 1", "count(5) = 1");
@@ -194,6 +196,9 @@ public final class DaysEdgesTest {
     }
 
     private static void undoneAsAhead() {
+        Check.sentence("UNDONE: the latest DAY, LADDER leant elsewhere, TREE shaken is as it had not been");
+        Rows.run("5:20@0;p50", "lean(0, 0) = -4", "shake(0) = 10", "days(1) = 5", "undo() = 2", "count(2) = 0", "of(0, 1) = 10", "at(0, 3) = 0",
+            "undo() = 1", "of(0, 1) = 20", "at(0, 3) = 0", "undo() = 0", "at(0, 3) = -4", "of(0, 1) = 20", "undo() = -4");
         Check.sentence("FRUIT, where LADDERS lean, GOT, PAID, LOST, the DAY, THE DRAW are as ahead of it, whatever was told since");
         Rows.run("5:20@0,5:9@0;p53=0,p54", "seed(77) = 1", "days(1) = 5", "of(0, 1) = 14", "count(4) = 3", "count(5) = 2", "seed(5) = 77",
             "undo() = 0", "of(0, 1) = 20", "of(1, 1) = 9", "count(2) = 0", "count(3) = 0", "count(4) = 0", "count(5) = 0", "seed(1) = 77");
@@ -253,6 +258,7 @@ public final class DaysEdgesTest {
         Rows.run("9:99@99", "seed(1) = 1", "drift(1) = 0", "seed(3) = 1103527590", "drift(1) = 0", "seed(4) = 1163074432",
             "drift(1) = 0", "of(0, 1) = 99");
         Rows.run("9:99@99", "seed(0) = 1", "drift(1) = 49", "of(0, 1) = 50", "seed(2) = 12345", "drift(1) = 25", "of(0, 1) = 25");
+        Rows.run("9:99@99", "seed(16) = 1", "drift(1) = 0", "seed(19) = 476387081", "drift(1) = 49", "seed(1) = 1639449168");
         Rows.run("9:90@99,9:91@99,9:92@99", "seed(2) = 1", "drift(1) = 46", "of(0, 1) = 90", "of(1, 1) = 91", "of(2, 1) = 46");
         Rows.run("9:90@99,9:91@99,9:92@99", "seed(7) = 1", "drift(1) = 45", "of(0, 1) = 90", "of(1, 1) = 46", "of(2, 1) = 92");
         Rows.run("9:90@99,9:91@99,9:92@99", "seed(9) = 1", "drift(1) = 45", "of(0, 1) = 45", "of(1, 1) = 91", "of(2, 1) = 92");

@@ -5,12 +5,14 @@ public final class ForetoldEdgesTest {
         ahead();
         fruit();
         reached();
+        fewerThanBefore();
         gathered();
         planNumbers();
         plan();
         planOfLikeOnes();
         roundNumbers();
         round();
+        planBehindRound();
         longer();
         larger();
         luckNumbers();
@@ -52,10 +54,19 @@ public final class ForetoldEdgesTest {
         Rows.run("5:9@99,5:9@0;p50=0,p40=0,p60=1,p90", "reached(0, 0) = 13", "reached(1, 0) = 13");
         Rows.run("5:9@0;p50,p50,p50,p50", "reached(0, 0) = 15");
         Rows.run("5:9@0;p40,p40,p40,p40", "reached(0, 0) = 0");
+        Check.sentence("REACHED. BAD.");
         Rows.run("5:9@0", "reached(0, 0) = 0", "reached(-1, 0) = -1", "reached(1, 0) = -1", "reached(MIN, 0) = -1", "reached(MAX, 0) = -1");
         Rows.run("1:1@9,1:1@9,1:1@9,1:1@9,1:1@9,1:7@9;p10", "reached(5, 0) = 1", "reached(6, 0) = -1");
         Rows.run("3:9@0;d30,l20", "reached(0, 0) = 0", "reached(0, 1) = 3", "reached(0, 2) = 3", "reached(0, 3) = 2", "reached(0, 7) = 1",
             "reached(0, 21) = 0", "days(2) = 0", "reached(0, 0) = 3", "reached(0, 1) = 2", "reached(0, 5) = 1", "reached(0, 60) = 3");
+    }
+
+    private static void fewerThanBefore() {
+        Check.sentence("in place of all TREES, LADDERS");
+        Rows.run("5:9@0,5:9@0,5:9@0;p90=0,p90=1,p90=2,p90=2", "text 5:8@0;p50 = 1", "reached(0, 0) = 1", "of(0, 3) = 0", "gathered() = 8",
+            "luck(1, 5, 0) = 0", "plan(1, -4) = 5", "round(0, 1, -1) = 5", "larger(60, 1) = -4", "ahead(60, 2) = 8", "count(6) = 8", "at(0, 5) = 1");
+        Rows.run("5:8@0;p50", "image() = 1", "text 5:9@0,5:9@0,5:9@0;p90=0,p90=1,p90=2,p90=2 = 3", "restore() = 1", "reached(0, 0) = 1",
+            "of(0, 3) = 0", "gathered() = 8", "luck(1, 5, 0) = 0", "plan(1, -4) = 5", "larger(60, 1) = -4", "ahead(60, 2) = 8", "at(0, 5) = 1");
     }
 
     private static void gathered() {
@@ -65,6 +76,7 @@ public final class ForetoldEdgesTest {
         Rows.run("5:1@0", "gathered() = 1");
         Rows.run("5:59@0", "gathered() = 59");
         Rows.run("5:60@0", "gathered() = 60");
+        Check.sentence("GATHERED; NONE.");
         Rows.run("5:61@0", "gathered() = -4", "days(1) = 0", "gathered() = 60");
         Rows.run("5:1@59", "gathered() = 60");
         Rows.run("5:1@60", "gathered() = -4");
@@ -124,7 +136,7 @@ public final class ForetoldEdgesTest {
         Rows.run("5:9@0;p50", "round(-1, 1, 0) = -1", "round(0, 1, 0) = 0", "round(1, 1, 0) = -1", "round(-4, 1, 0) = -1",
             "round(MIN, 1, 0) = -1", "round(MAX, 1, 0) = -1");
         Rows.run("5:9@0;p50,p50,p50,p50", "round(3, 1, 0) = 0", "round(4, 1, 0) = -1");
-        Check.sentence("the TREE on the k-th DAY (NONE: not so many)");
+        Check.sentence("ROUND: how much (k -1), the TREE on the k-th DAY (NONE: not so many)");
         Rows.run("5:9@0;p50", "round(0, 1, 0) = 0", "round(0, 1, 1) = -4", "round(0, 1, MAX) = -4");
         Rows.run("5:9@0;p50", "round(0, 4, 0) = 0", "round(0, 4, 3) = 0", "round(0, 4, 4) = -4", "round(0, 4, MAX) = -4");
         Check.sentence("BAD: k below -1, too.");
@@ -152,6 +164,14 @@ public final class ForetoldEdgesTest {
         Rows.run("", "round(0, 1, -1) = -1");
     }
 
+    private static void planBehindRound() {
+        Check.sentence("FORETOLD from now (nothing is changed)");
+        Rows.run("5:20@0,5:9@0,5:7@0;p50,p50=0", "plan(1, -4) = 10", "round(0, 1, -1) = 10", "plan(1, -4) = 10", "plan(1, 0) = 0", "plan(1, 1) = 0",
+            "lean(1, 2) = 0", "round(0, 4, -1) = 26", "plan(1, -4) = 10", "plan(1, 0) = 0", "plan(1, 1) = 0", "round(0, 1, -1) = 10");
+        Rows.run("5:20@0,5:9@0,5:7@0;p50,p50=2", "round(0, 1, -1) = 10", "text 5:3@0,5:4@0;p50 = 2", "round(0, 1, -1) = 4", "round(0, 1, 0) = 1",
+            "plan(1, -4) = 4", "plan(1, 0) = 1");
+    }
+
     private static void longer() {
         Check.sentence("the least by which a LADDER would have to be LONGER (0 to as many as make it 9) to REACH a TREE on this DAY; none.");
         Rows.run("5:9@0,6:9@0,9:9@0,10:9@0;p50", "longer(0, 0) = 0", "longer(0, 1) = 1", "longer(0, 2) = 4", "longer(0, 3) = -4");
@@ -164,6 +184,7 @@ public final class ForetoldEdgesTest {
         Rows.run("2:9@0,3:9@0,4:9@0;w10", "longer(0, 0) = 1", "longer(0, 1) = -4", "days(1) = 0", "longer(0, 1) = 2", "longer(0, 2) = -4");
         Rows.run("1:9@0,18:9@0;l10", "longer(0, 0) = -4", "days(1) = 0", "longer(0, 0) = 0", "longer(0, 1) = 8", "days(6) = 0",
             "longer(0, 0) = -4");
+        Rows.run("4:9@0,1:9@0;p50,t90", "longer(0, 0) = 0", "longer(0, 1) = 0", "longer(1, 0) = 0", "longer(1, 1) = 0");
         Rows.run("9:9@99;p50", "longer(0, 0) = 4", "at(0, 1) = 5", "at(0, 3) = -4");
         Check.sentence("LONGER; NONE. BAD.");
         Rows.run("5:9@0;p50", "longer(-1, 0) = -1", "longer(1, 0) = -1", "longer(0, -1) = -1", "longer(0, 1) = -1", "longer(0, -4) = -1",
@@ -219,6 +240,7 @@ public final class ForetoldEdgesTest {
         Rows.run("5:99@0;p50=0,p50=0,p50=0,p50=0", "rule(0, 30) = 5", "luck(99, 0, 0) = 1", "luck(100, 0, 0) = 0", "luck(90, 5, 0) = 5",
             "luck(90, 5, 1) = 16", "luck(91, 5, 0) = 1", "luck(91, 5, 1) = 16");
         Rows.run("5:99@0;p50=0", "days(3) = 15", "luck(5, 5, 0) = 1", "luck(5, 5, 1) = 2", "luck(6, 5, 0) = 0", "count(2) = 3", "count(3) = 15");
+        Rows.run("1:1@0,1:2@0,1:3@0,1:4@0,1:5@0,1:6@0;p10=5,p10=4", "luck(10, 5, 0) = 1", "luck(10, 5, 1) = 4", "luck(11, 5, 0) = 0");
         Rows.run("3:9@0;d30=0", "luck(1, 5, 0) = 0", "days(1) = 0", "luck(1, 5, 0) = 1", "luck(1, 5, 1) = 2");
     }
 

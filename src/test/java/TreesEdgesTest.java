@@ -56,6 +56,8 @@ public final class TreesEdgesTest {
     }
 
     private static void treesAsTheyCome() {
+        Check.sentence("TREES 0 .. 5, as they come");
+        Rows.run("", "tree(9, 1, 1) = 0", "tree(2, 2, 2) = 1", "of(0, 0) = 9", "of(1, 0) = 2", "of(2, 0) = -1", "of(-1, 0) = -1");
         Check.sentence("A TREE: its number. BAD; FULL: 6.");
         Rows.run("", "tree(1, 1, 1) = 0", "tree(2, 2, 2) = 1", "tree(3, 3, 3) = 2", "tree(4, 4, 4) = 3", "tree(5, 5, 5) = 4",
             "tree(6, 6, 6) = 5", "tree(7, 7, 7) = -3", "count(0) = 6", "of(0, 0) = 1", "of(1, 0) = 2", "of(2, 0) = 3",
@@ -85,9 +87,12 @@ public final class TreesEdgesTest {
         Check.sentence("lean at a TREE, or nowhere (at first)");
         Rows.run("5:9@0", "ladder(0, 5, 5) = 0", "at(0, 3) = -4", "of(0, 3) = 0", "days(1) = 0", "count(4) = 0");
         Rows.run("5:9@0;p50=0,p50=0,p50=0", "ladder(0, 5, 5) = 3", "at(3, 3) = -4", "of(0, 3) = 7");
+        Rows.run("", "tree(5, 9, 0) = 0", "of(0, 3) = 0", "ladder(0, 5, 5) = 0", "of(0, 3) = 0", "at(0, 3) = -4", "days(1) = 0");
     }
 
     private static void laddersAsTheyCome() {
+        Check.sentence("LADDERS 0 .. 3, as they come, are of a KIND");
+        Rows.run("", "ladder(4, 9, 1) = 0", "ladder(0, 2, 2) = 1", "at(0, 0) = 4", "at(1, 0) = 0", "at(2, 0) = -1", "at(-1, 0) = -1");
         Check.sentence("A LADDER: its number. BAD; FULL: 4.");
         Rows.run("", "ladder(0, 1, 1) = 0", "ladder(1, 2, 2) = 1", "ladder(2, 3, 3) = 2", "ladder(3, 4, 4) = 3",
             "ladder(4, 5, 5) = -3", "count(1) = 4", "at(0, 1) = 1", "at(1, 1) = 2", "at(2, 1) = 3", "at(3, 1) = 4", "at(4, 1) = -1");
@@ -184,6 +189,10 @@ public final class TreesEdgesTest {
             "of(0, 5) = -1", "of(0, MIN) = -1", "of(0, MAX) = -1");
         Rows.run("7:8@9", "of(-1, 0) = -1", "of(1, 0) = -1", "of(MIN, 0) = -1", "of(MAX, 0) = -1");
         Rows.run(SIX, "of(-1, 0) = -1", "of(0, 0) = 1", "of(5, 0) = 6", "of(6, 0) = -1");
+        Check.sentence("Sets are bits.");
+        Rows.run("1:1@0;p10=0,p10,p10,p10", "of(0, 3) = 1", "lean(0, -4) = 0", "lean(1, 0) = -4", "of(0, 3) = 2", "lean(1, -4) = 0",
+            "lean(2, 0) = -4", "of(0, 3) = 4", "lean(2, -4) = 0", "lean(3, 0) = -4", "of(0, 3) = 8", "of(0, 4) = 8", "reached(0, 0) = 15");
+        Rows.run("9:1@0,9:1@0,9:1@0,9:1@0,9:1@0,1:1@0;p10", "at(0, 5) = 32");
         Check.sentence("3 LADDERS that lean there (a set)");
         Rows.run("9:1@0,1:1@0;p10=0,p10=1,p10=0,p10=0", "of(0, 3) = 13", "of(1, 3) = 2");
         Rows.run("9:1@0;p10=0,p10=0,p10=0,p10=0", "of(0, 3) = 15");
@@ -200,6 +209,9 @@ public final class TreesEdgesTest {
         Rows.run("1:1@0;p11", "at(-1, 0) = -1", "at(0, 1) = 1", "at(1, 0) = -1", "at(MIN, 0) = -1", "at(MAX, 0) = -1");
         Rows.run("1:1@0;p10,p20,p30,p40", "at(-1, 1) = -1", "at(0, 1) = 1", "at(3, 1) = 4", "at(4, 1) = -1");
         Rows.run(SIX + ";p10=5,p10=0", "at(0, 3) = 5", "at(1, 3) = 0");
+        Check.sentence("4 how far it REACHES on this DAY");
+        Rows.run("1:1@0;d30,l30", "at(0, 4) = 2", "at(1, 4) = 0", "days(1) = 0", "at(0, 4) = 3", "at(1, 4) = 6", "undo() = 0", "at(0, 4) = 2",
+            "at(1, 4) = 0");
         Check.sentence("5 TREES that it REACHES on this DAY (a set)");
         Rows.run(SIX + ";p10,p20,p60,l90", "at(0, 5) = 1", "at(1, 5) = 3", "at(2, 5) = 63", "at(3, 5) = 0", "days(1) = 0",
             "at(3, 5) = 63");
